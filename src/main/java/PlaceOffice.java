@@ -31,21 +31,15 @@ public final class PlaceOffice {
 
     private static final int NONE = -1;
 
-    private final byte[] input = new byte[INPUT_LIMIT];
-    private int inputLength = 0;
-    private int error = NO_ERROR;
-    private int errorAt = NONE;
+    private final SetupReader reader = new SetupReader();
+    private final Allocation allocation = new Allocation();
     private final Page page = new Page();
 
-    private final Allocation allocation = new Allocation();
-
-    private Town spareTown = new Town();
     private Roll now = new Roll(new Town());
-    private Roll trial = new Roll(spareTown);
-    private final Roll otherTrial = new Roll(spareTown);
-    private final SetupReader reader = new SetupReader(input, spareTown, trial);
+    private final Roll trial = new Roll(now.town);
+    private final Roll otherTrial = new Roll(now.town);
 
-    private final Roll saved = new Roll(spareTown);
+    private final Roll saved = new Roll(now.town);
     private boolean isSaved = false;
     private final Roll[] history = new Roll[UNDO_LIMIT];
     private int historyNext = 0;
@@ -53,57 +47,52 @@ public final class PlaceOffice {
 
     public PlaceOffice() {
         for (int i = 0; i < UNDO_LIMIT; i++) {
-            history[i] = new Roll(spareTown);
+            history[i] = new Roll(now.town);
         }
     }
 
     // ---- setup text
 
     public int appendInput(int a, int b, int c, int d, int e) {
-        if (inputLength + 20 > INPUT_LIMIT) {
+        if (reader.length + 20 > INPUT_LIMIT) {
             return NONE;
         }
-        appendFour(a);
-        appendFour(b);
-        appendFour(c);
-        appendFour(d);
-        appendFour(e);
-        return inputLength;
+        reader.append(a);
+        reader.append(b);
+        reader.append(c);
+        reader.append(d);
+        reader.append(e);
+        return reader.length;
     }
 
     public boolean truncateInput(int length) {
-        if (length < 0 || length > inputLength) {
+        if (length < 0 || length > reader.length) {
             return false;
         }
-        inputLength = length;
+        reader.length = length;
         return true;
     }
 
     public int loadOffice() {
-        // The setup is read into spare rows, so that an error leaves the office as it was.
-        reader.readSetup(inputLength, spareTown, trial);
-        inputLength = 0;
-        error = reader.error;
-        errorAt = reader.errorAt;
-        if (error != NO_ERROR) {
+        reader.readSetup();
+        reader.length = 0;
+        if (reader.error != NO_ERROR) {
             return NONE;
         }
-        Roll oldRoll = now;
-        Town oldTown = now.town;
-        now = trial;
-        trial = oldRoll;
-        spareTown = oldTown;
+        Roll old = now;
+        now = reader.roll;
+        reader.roll = old;
         isSaved = false;
         historyLength = 0;
         return now.children;
     }
 
     public int errorCode() {
-        return error;
+        return reader.error;
     }
 
     public int errorOffset() {
-        return errorAt;
+        return reader.errorAt;
     }
 
     // ---- questions about the office, its schools and its children
@@ -675,13 +664,6 @@ public final class PlaceOffice {
 
     // ---- helpers
 
-    private void appendFour(int four) {
-        for (int shift = 24; shift >= 0; shift -= 8) {
-            input[inputLength] = (byte) (four >> shift);
-            inputLength++;
-        }
-    }
-
     private void needSchool(int school) {
         if (school < 0 || school >= now.town.schools) {
             throw new IndexOutOfBoundsException("no such school");
@@ -871,8 +853,7 @@ public final class PlaceOffice {
             town = itsTown;
         }
 
-        void clear(Town newTown) {
-            town = newTown;
+        void clear() {
             children = 0;
             lotState = 0;
             lateGoesBehind = false;
@@ -1266,7 +1247,7 @@ public final class PlaceOffice {
         }
     }
 
-    /** Reads a setup text from left to right into a town and a roll, up to the first error. */
+    /** The input buffer, and the reading of its setup text from left to right up to the first error. */
     private static final class SetupReader {
         private static final Word[] WORDS = Word.values();
 
@@ -1276,12 +1257,12 @@ public final class PlaceOffice {
         private static final int SEMICOLON = 3;
         private static final int STRANGE = 4;
 
-        final byte[] text;
-        int textLength = 0;
+        final byte[] text = new byte[INPUT_LIMIT];
+        int length = 0;
         int error = NO_ERROR;
         int errorAt = NONE;
-        Town town;
-        Roll roll;
+        /** What is read stands here, apart from the office, so that an error leaves that as it was. */
+        Roll roll = new Roll(new Town());
         boolean seedTold = false;
         boolean appealsTold = false;
         boolean lateTold = false;
@@ -1293,20 +1274,18 @@ public final class PlaceOffice {
         /** The word that the token is, null if it is none of these. */
         Word word = null;
 
-        SetupReader(byte[] itsText, Town itsTown, Roll itsRoll) {
-            text = itsText;
-            town = itsTown;
-            roll = itsRoll;
+        void append(int four) {
+            for (int shift = 24; shift >= 0 && length < INPUT_LIMIT; shift -= 8) {
+                text[length] = (byte) (four >> shift);
+                length++;
+            }
         }
 
-        void readSetup(int length, Town newTown, Roll newRoll) {
-            textLength = length;
+        void readSetup() {
+            roll.town.clear();
+            roll.clear();
             error = NO_ERROR;
             errorAt = NONE;
-            town = newTown;
-            roll = newRoll;
-            town.clear();
-            roll.clear(town);
             seedTold = false;
             appealsTold = false;
             lateTold = false;
@@ -1334,129 +1313,124 @@ public final class PlaceOffice {
             }
         }
 
-        // ---- statements: each returns false behind an error
+        // ---- statements: each stops behind an error
 
-        boolean readSchool() {
-            if (town.schools >= SCHOOL_LIMIT) {
-                return fail(MISPLACED);
+        void readSchool() {
+            if (roll.town.schools >= SCHOOL_LIMIT) {
+                fail(MISPLACED);
+                return;
             }
             advance();
             int name = nameHere();
             if (name == NONE) {
-                return false;
+                return;
             }
-            if (town.find(name) != NONE) {
-                return fail(BAD_NAME);
+            if (roll.town.find(name) != NONE) {
+                fail(BAD_NAME);
+                return;
             }
             advance();
             int places = readNumber(0, CAPACITY_LIMIT);
             int x = places == NONE ? NONE : readNumber(0, COORDINATE_LIMIT);
             int y = x == NONE ? NONE : readNumber(0, COORDINATE_LIMIT);
             if (y == NONE) {
-                return false;
+                return;
             }
             int rules = readRules();
-            if (!passSemicolon()) {
-                return false;
+            if (passSemicolon()) {
+                roll.capacity[roll.town.schools] = places;
+                roll.town.tellSchool(name, x, y, rules);
             }
-            roll.capacity[town.schools] = places;
-            town.tellSchool(name, x, y, rules);
-            return true;
         }
 
-        boolean readZone() {
+        void readZone() {
             advance();
             int itsSchool = toldSchoolHere();
             if (itsSchool == NONE) {
-                return false;
+                return;
             }
-            if (town.isZoned(itsSchool)) {
-                return fail(BAD_NAME);
+            if (roll.town.isZoned(itsSchool)) {
+                fail(BAD_NAME);
+                return;
             }
             advance();
             int leastX = readNumber(0, COORDINATE_LIMIT);
             int leastY = leastX == NONE ? NONE : readNumber(0, COORDINATE_LIMIT);
             int mostX = leastY == NONE ? NONE : readNumber(leastX, COORDINATE_LIMIT);
             int mostY = mostX == NONE ? NONE : readNumber(leastY, COORDINATE_LIMIT);
-            if (mostY == NONE || !passSemicolon()) {
-                return false;
+            if (mostY != NONE && passSemicolon()) {
+                roll.town.tellZone(itsSchool, leastX, leastY, mostX, mostY);
             }
-            town.tellZone(itsSchool, leastX, leastY, mostX, mostY);
-            return true;
         }
 
-        boolean readPupil() {
-            if (town.pupils >= PUPIL_LIMIT) {
-                return fail(MISPLACED);
+        void readPupil() {
+            if (roll.town.pupils >= PUPIL_LIMIT) {
+                fail(MISPLACED);
+                return;
             }
             advance();
             int family = readNumber(1, FAMILY_LIMIT);
             int itsSchool = family == NONE ? NONE : toldSchoolHere();
             if (itsSchool == NONE) {
-                return false;
+                return;
             }
             advance();
-            if (!passSemicolon()) {
-                return false;
+            if (passSemicolon()) {
+                roll.town.tellPupil(family, itsSchool);
             }
-            town.tellPupil(family, itsSchool);
-            return true;
         }
 
-        boolean readChild() {
+        void readChild() {
             if (roll.children >= CHILD_LIMIT) {
-                return fail(MISPLACED);
+                fail(MISPLACED);
+                return;
             }
             advance();
             int x = readNumber(0, COORDINATE_LIMIT);
             int y = x == NONE ? NONE : readNumber(0, COORDINATE_LIMIT);
             if (y == NONE) {
-                return false;
+                return;
             }
             boolean needsCare = passWord(Word.CARE);
             int family = passWord(Word.FAMILY) ? readNumber(1, FAMILY_LIMIT) : 0;
             if (family == NONE) {
-                return false;
+                return;
             }
             if (!passWord(Word.PREFERS)) {
-                return fail(SYNTAX);
+                fail(SYNTAX);
+                return;
             }
             int wishes = readWishes();
-            if (wishes == NONE || !passSemicolon()) {
-                return false;
+            if (wishes != NONE && passSemicolon()) {
+                roll.enrol(x, y, family, needsCare, wishes);
             }
-            roll.enrol(x, y, family, needsCare, wishes);
-            return true;
         }
 
-        boolean readSeed() {
+        void readSeed() {
             if (seedTold || roll.children > 0) {
-                return fail(MISPLACED);
+                fail(MISPLACED);
+            } else {
+                seedTold = true;
+                roll.lotState = readSetting(999);
             }
-            seedTold = true;
-            int value = readSetting(999);
-            roll.lotState = value;
-            return value != NONE;
         }
 
-        boolean readAppeals() {
+        void readAppeals() {
             if (appealsTold) {
-                return fail(MISPLACED);
+                fail(MISPLACED);
+            } else {
+                appealsTold = true;
+                roll.town.appeals = readSetting(9);
             }
-            appealsTold = true;
-            int value = readSetting(9);
-            town.appeals = value;
-            return value != NONE;
         }
 
-        boolean readLate() {
+        void readLate() {
             if (lateTold) {
-                return fail(MISPLACED);
+                fail(MISPLACED);
+            } else {
+                lateTold = true;
+                roll.lateGoesBehind = readSetting(1) == 1;
             }
-            lateTold = true;
-            int value = readSetting(1);
-            roll.lateGoesBehind = value == 1;
-            return value != NONE;
         }
 
         // ---- parts of statements: each returns NONE, or false, behind an error
@@ -1531,7 +1505,7 @@ public final class PlaceOffice {
             if (name == NONE) {
                 return NONE;
             }
-            int found = town.find(name);
+            int found = roll.town.find(name);
             if (found == NONE) {
                 fail(BAD_NAME);
             }
@@ -1561,35 +1535,35 @@ public final class PlaceOffice {
 
         boolean passSemicolon() {
             if (kind != SEMICOLON) {
-                return fail(SYNTAX);
+                fail(SYNTAX);
+                return false;
             }
             advance();
             return true;
         }
 
-        boolean fail(int code) {
+        void fail(int code) {
             error = code;
             errorAt = start;
-            return false;
         }
 
         // ---- tokens
 
         void advance() {
             start = end;
-            while (start < textLength && (text[start] == 32 || text[start] == 10)) {
+            while (start < length && (text[start] == 32 || text[start] == 10)) {
                 start++;
             }
             end = start;
             word = null;
-            if (start >= textLength) {
+            if (start >= length) {
                 kind = END;
                 return;
             }
             kind = kindOf(text[start]);
             end++;
             if (kind == LETTERS || kind == NUMBER) {
-                while (end < textLength && kindOf(text[end]) == kind) {
+                while (end < length && kindOf(text[end]) == kind) {
                     end++;
                 }
             }

@@ -132,14 +132,28 @@ public final class PromisesTest {
     }
 
     private static void p4LoadForgetsAll() {
-        PlaceOffice o = Check.office("school a 0 0 0 sibling;pupil 3 a;appeals 1;late 1;zone a 0 0 9 9;"
-            + "child 1 1 care family 3 prefers a;child 1 1 prefers a;");
-        o.allocate();
-        o.appeal(0, 0);
-        o.addChild(1, 1, 0, true, 1);
-        o.withdraw(1);
-        Check.is("p4 load", Check.load(o, "school a 1 0 0 sibling;child 1 1 family 3 prefers a;"
-            + "child 1 1 prefers a;child 0 0 prefers a;"), 3);
+        PlaceOffice o = new PlaceOffice();
+        // An office may use the rows of the load before the last one again.
+        for (int i = 0; i < 3; i++) {
+            Check.load(o, "seed 9;school a 0 0 0 sibling;pupil 3 a;pupil 3 a;appeals 1;late 1;zone a 0 0 9 9;"
+                + "child 1 1 care family 3 prefers a;child 1 1 prefers a;");
+            o.allocate();
+            o.appeal(0, 0);
+            o.addChild(1, 1, 0, true, 1);
+            o.withdraw(1);
+            o.moveHome(0, 2, 2);
+            o.chainOf(0);
+            Check.is("p4 before", o.school(0, 8) + " " + o.child(0, 8) + " " + o.count(9), "1 1 1");
+            if (i > 0) {
+                Check.load(o, "school b 1 0 0 sibling;child 1 1 family 3 prefers b;");
+            }
+            Check.is("p4 load", Check.load(o, "school a 1 0 0 sibling;child 1 1 family 3 prefers a;"
+                + "child 1 1 prefers a;child 0 0 prefers a;"), 3);
+            forgotten(o);
+        }
+    }
+
+    private static void forgotten(PlaceOffice o) {
         for (int child = 0; child < 3; child++) {
             for (int what : new int[] {3, 6, 7, 8}) {
                 Check.is("p4 child " + child + " " + what, o.child(child, what), 0);
@@ -147,9 +161,14 @@ public final class PromisesTest {
             Check.is("p4 no place", o.placeOf(child), -1);
             Check.is("p4 no round", o.roundOf(child), 0);
         }
+        for (int what = 2; what < 12; what++) {
+            Check.is("p4 count " + what, o.count(what), 0);
+        }
         Check.is("p4 no sibling", o.meets(0, 0, 1), false);
-        Check.is("p4 no zone", o.school(0, 4), 0);
-        Check.is("p4 no appeals", o.school(0, 8), 0);
+        for (int what = 4; what < 10; what++) {
+            Check.is("p4 school " + what, o.school(0, what), 0);
+        }
+        Check.is("p4 no zone", o.inZone(0), 0);
         Check.is("p4 lot from the seed 0", o.child(2, 4), lot(0, 2));
     }
 
@@ -1006,6 +1025,12 @@ public final class PromisesTest {
         Check.is("p38 three of a family", o.together(), 1);
         o.withdraw(3);
         Check.is("p38 one with a place", o.together(), 1);
+        o.addChild(3, 3, 99, false, 2);
+        Check.is("p38 the family 99, apart", o.together(), 1);
+        o.undo();
+        o.addChild(3, 3, 99, false, 1);
+        o.setCapacity(0, 9);
+        Check.is("p38 the family 99", o.together(), 2);
     }
 
     private static void p39Cutoff() {
