@@ -715,6 +715,9 @@ public final class PlaceOffice {
         long rest = set;
         for (int left = Long.bitCount(set); left > 0; left--) {
             int child = now.firstOf(rest, school);
+            if (child == NONE) {
+                return;
+            }
             rest &= ~(1L << child);
             page.put(' ');
             page.putNumber(child);
