@@ -2,15 +2,21 @@
 final class Check {
     private static int wrong = 0;
     private static int done = 0;
+    private static String about = "";
 
     private Check() {
+    }
+
+    /** What the answers that follow are about; it is printed with each wrong one. */
+    static void about(String what) {
+        about = what + ": ";
     }
 
     static void is(String what, Object got, Object want) {
         done++;
         if (!got.equals(want)) {
             wrong++;
-            System.out.println(what + " answered " + got + ", due is " + want);
+            System.out.println(about + what + " answered " + got + ", due is " + want);
         }
     }
 
@@ -24,19 +30,25 @@ final class Check {
         }
         if (got != want) {
             wrong++;
-            System.out.println(what + " threw " + got + ", due is " + want);
+            System.out.println(about + what + " threw " + got + ", due is " + want);
         }
+    }
+
+    /** The next 20 bytes of a text, with spaces behind it, as one call of appendInput takes them. */
+    static int[] fours(String text, int from) {
+        int[] fours = new int[5];
+        for (int k = 0; k < 20; k++) {
+            int sign = from + k < text.length() ? text.charAt(from + k) : ' ';
+            fours[k / 4] = fours[k / 4] << 8 | sign;
+        }
+        return fours;
     }
 
     /** Appends a text to the input of an office; the last call may append spaces, cut off again. */
     static void append(PlaceOffice office, String text) {
         int length = office.truncateInput(0) ? 0 : -1;
         for (int i = 0; i < text.length(); i += 20) {
-            int[] fours = new int[5];
-            for (int k = 0; k < 20; k++) {
-                int sign = i + k < text.length() ? text.charAt(i + k) : ' ';
-                fours[k / 4] = fours[k / 4] << 8 | sign;
-            }
+            int[] fours = fours(text, i);
             length = office.appendInput(fours[0], fours[1], fours[2], fours[3], fours[4]);
         }
         if (length < 0 || !office.truncateInput(text.length())) {
