@@ -90,6 +90,31 @@ public final class FaceTest {
         Check.is("constants", constants, due);
     }
 
+    /** The face as the document tells it, line by line, is the one that is looked for here. */
+    private static void faceOfTheDocument() throws IOException {
+        Path path = Path.of("../shared/DOC.md");
+        if (!Files.exists(path)) {
+            System.out.println("there is no " + path + ": the face was not looked up");
+            return;
+        }
+        Set<String> told = new TreeSet<>();
+        Set<String> due = new TreeSet<>(List.of(FACE));
+        due.add("PlaceOffice()");
+        for (String line : Files.readAllLines(path)) {
+            if (line.matches("    public (?!static).*;")) {
+                told.add(line.trim().replaceFirst("public ", "").replaceAll("(int|boolean) \\w+([,)])", "$1$2")
+                    .replace(";", ""));
+            } else if (line.matches("    public static .*;")) {
+                told.add(line.trim());
+            }
+        }
+        String[] constants = {"NO_ERROR", "SYNTAX", "OUT_OF_RANGE", "BAD_NAME", "MISPLACED"};
+        for (int i = 0; i < constants.length; i++) {
+            due.add("public static final int " + constants[i] + " = " + i + ";");
+        }
+        Check.is("face of the document", told, due);
+    }
+
     /** No method of one's own bears the name of a public one, and none takes more than seven. */
     private static void namesInside() {
         Set<String> open = new HashSet<>();
@@ -150,6 +175,7 @@ public final class FaceTest {
 
     public static void main(String[] args) throws IOException {
         face();
+        faceOfTheDocument();
         namesInside();
         source();
         Check.finish("FaceTest");
