@@ -896,7 +896,7 @@ public final class PlaceOffice {
         int enrol(int homeX, int homeY, int itsFamily, boolean needsCare, int wishRow) {
             int child = children;
             children++;
-            lotState = (lotState * 1103515245 + 12345) & Integer.MAX_VALUE;
+            lotState = (lotState * 1103515245 + 12345) & 0x7fffffff;
             x[child] = homeX;
             y[child] = homeY;
             family[child] = itsFamily;
