@@ -758,7 +758,7 @@ public final class PlaceOffice {
         if (square <= 0) {
             return 0.0;
         }
-        double v = square;
+        double v = (double) square;
         double r = v;
         for (int i = 0; i < 60; i++) {
             r = (r + v / r) / 2.0;

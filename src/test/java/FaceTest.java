@@ -153,8 +153,35 @@ public final class FaceTest {
             Check.is("import " + imports.group(1),
                 List.of("java.util.Arrays", "java.util.NoSuchElementException").contains(imports.group(1)), true);
         }
+        library(code);
         Check.is("signs of the source", code.chars().allMatch(c -> c < 127), true);
         methodLengths(text.split("\n"));
+    }
+
+    /** What stands behind the name of a class of the library is in the list of LANGUAGE.md. */
+    private static void library(String code) {
+        Set<String> listed = Set.of("Math.max", "Math.min", "Long.bitCount", "Arrays.fill", "System.arraycopy");
+        Matcher uses = Pattern.compile(
+            "\\b(?:Math|Long|Integer|Arrays|System|String|Character|Short|Byte|Double|Float)\\.\\w+").matcher(code);
+        int found = 0;
+        while (uses.find()) {
+            found++;
+            Check.is(uses.group() + " is listed", listed.contains(uses.group()), true);
+        }
+        Check.is("uses of the library: " + found, found > 5, true);
+        Set<String> thrown = Set.of("IllegalStateException", "IllegalArgumentException",
+            "IndexOutOfBoundsException", "NoSuchElementException");
+        Matcher throwing = Pattern.compile("\\bthrow new (\\w+)\\(\"[^\"]+\"\\);").matcher(code);
+        int thrownOnes = 0;
+        while (throwing.find()) {
+            thrownOnes++;
+            Check.is(throwing.group(1) + " is listed", thrown.contains(throwing.group(1)), true);
+        }
+        Check.is("every throw is a new one with a written text",
+            code.split("\\bthrow\\b", -1).length - 1, thrownOnes);
+        for (String word : List.of("\\btry\\b", "\\bcatch\\b", "\\binstanceof\\b", "\\bnew int\\[[^\\]]*\\]\\[")) {
+            Check.is("source has " + word, Pattern.compile(word).matcher(code).find(), false);
+        }
     }
 
     private static void methodLengths(String[] lines) {
